@@ -390,12 +390,18 @@ public final class SecretHouse {
             tellConstants();
             sendLabels(alice);
             transferLabels(bob);
-            for (int wire = 0; wire < gates.wires; wire++) {
+            for (int wire = 0; wire < gates.wires && hasWire(wire); wire++) {
+                int x = gates.lefts[wire];
+                int y = gates.rights[wire];
+                if (x < 0 || x >= wire || y < 0 || y >= wire) {
+                    continue;
+                }
                 if (gates.kinds[wire] == Gates.XOR) {
-                    passXor(wire, gates.lefts[wire], gates.rights[wire]);
+                    zeros[wire] = zeros[x] ^ zeros[y];
+                    held[wire] = held[x] ^ held[y];
                 } else if (gates.kinds[wire] == Gates.AND) {
-                    garbleAnd(wire, gates.lefts[wire], gates.rights[wire]);
-                    evaluateAnd(wire, gates.lefts[wire], gates.rights[wire]);
+                    garbleAnd(wire, zeros[x], zeros[y]);
+                    evaluateAnd(wire, held[x], held[y]);
                 }
             }
             tell(outputs);
@@ -475,32 +481,27 @@ public final class SecretHouse {
             return (bit == 0 ? message0 : message1) ^ pad;
         }
 
-        private void passXor(int wire, int x, int y) {
-            if (hasWire(wire) && hasWire(x) && hasWire(y)) {
-                zeros[wire] = zeros[x] ^ zeros[y];
-                held[wire] = held[x] ^ held[y];
-            }
-        }
-
-        private void garbleAnd(int wire, int x, int y) {
-            if (!hasWire(wire) || !hasWire(x) || !hasWire(y)) {
-                return;
-            }
-            zeros[wire] = toss(0);
+        /** Alice's part: a row for each pair of colours, hidden by the labels of that pair. */
+        private void garbleAnd(int wire, long zeroX, long zeroY) {
+            long zero = toss(0);
             for (int pair = 0; pair < 4; pair++) {
                 int a = pair >> 1;
                 int b = pair & 1;
-                long left = zeros[x] ^ (a * offset);
-                long right = zeros[y] ^ (b * offset);
+                long left = zeroX ^ (a * offset);
+                long right = zeroY ^ (b * offset);
                 int row = (int) (2 * (left & 1) + (right & 1));
-                table[row] = zeros[wire] ^ ((a & b) * offset) ^ hide(left, right, wire);
+                table[row] = zero ^ ((a & b) * offset) ^ hide(left, right, wire);
+            }
+            if (hasWire(wire)) {
+                zeros[wire] = zero;
             }
         }
 
-        private void evaluateAnd(int wire, int x, int y) {
-            if (hasWire(wire) && hasWire(x) && hasWire(y)) {
-                int row = (int) (2 * (held[x] & 1) + (held[y] & 1));
-                held[wire] = table[row] ^ hide(held[x], held[y], wire);
+        /** Bob's part: the colours of the labels he holds tell him the row. */
+        private void evaluateAnd(int wire, long left, long right) {
+            int row = (int) (2 * (left & 1) + (right & 1));
+            if (hasWire(wire)) {
+                held[wire] = table[row] ^ hide(left, right, wire);
             }
         }
 
@@ -1615,8 +1616,8 @@ public final class SecretHouse {
 
     /** Arithmetic made of gates. A value is where its wires stand in the pool, the lowest first. */
     private static final class Reckoner {
-        /** A COST of 3000 and 2000 bits of inputs can't fill it. */
-        private static final int MOST = 16384;
+        /** 2000 bits of inputs and a COST of 3000 can't fill it: none takes two wires a unit. */
+        private static final int MOST = 8192;
         private static final int MOST_BITS = 64;
 
         private final Gates gates;
@@ -1737,7 +1738,7 @@ public final class SecretHouse {
             return to;
         }
 
-        /** The least that is not there if asked is -x; the test tells whether it is asked. */
+        /** -x where the test is true, else x: one row of gates serves signs that are not known. */
         int negate(int x, int width, int test) {
             int to = take(width);
             int carry = test;

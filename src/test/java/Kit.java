@@ -96,7 +96,7 @@ final class Kit {
     static void tells(String text, SecretHouse house, long... wants) {
         due("run of " + text, house.run(), true);
         due("outputs of " + text, house.count(2), wants.length);
-        for (int k = 0; k < wants.length; k++) {
+        for (int k = 0; k < Math.min(wants.length, house.count(2)); k++) {
             due("value(" + k + ") of " + text, house.value(k), wants[k]);
         }
     }
