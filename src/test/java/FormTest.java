@@ -86,6 +86,7 @@ public final class FormTest {
     private static void typesNames() {
         Kit.tells("let u0 = 1; let u65 = 2; let i1 = 3; let u08 = 4; let u = 5; let i = 6; let u100 = 7;"
             + "let i65 = 8; let u8_ = 9; let Bool = 10; output u0+u65+i1+u08+u+i+u100+i65+u8_+Bool;", 55);
+        Kit.tells("let baol = 1; let boal = 2; let booa = 3; let boo = 4; output baol + boal + booa + boo;", 10);
         String[] types = {"u1", "u64", "i2", "i64", "bool", "u10", "i10"};
         for (String type : types) {
             Kit.fault(2, "let @" + type + " = 1;");
@@ -228,7 +229,11 @@ public final class FormTest {
         Kit.fault(2, "let r = [3]; output " + Kit.times("r[", 41) + "@0" + Kit.times("]", 41) + ";");
         Kit.tells("let r = [7, 8]; output " + Kit.times("(", 39) + "r[1]" + Kit.times(")", 39) + ";", 8);
         Kit.fault(2, "let r = [7, 8]; output " + Kit.times("(", 40) + "r[@1]" + Kit.times(")", 40) + ";");
+        Kit.tells("output " + Kit.times("(", 39) + "[1, 2]" + Kit.times(")", 39) + "[1];", 2);
         Kit.fault(2, "output " + Kit.times("(", 40) + "[@1]" + Kit.times(")", 40) + ";");
+        Kit.tells("fn f(a u8) u8 { return a; } output f(" + Kit.times("(", 39) + "1" + Kit.times(")", 39) + ");", 1);
+        Kit.fault(2, "fn f(a u8) u8 { return a; } output f(" + Kit.times("(", 40) + "@1" + Kit.times(")", 40) + ");");
+        Kit.tells("output u8(" + Kit.times("(", 39) + "1" + Kit.times(")", 39) + ");", 1);
         Kit.fault(2, "output " + Kit.times("(", 40) + "u8(@1)" + Kit.times(")", 40) + ";");
         Kit.fault(2, "fn f(a u8) u8 { return a; } output " + Kit.times("(", 40) + "f(@1)" + Kit.times(")", 40) + ";");
         Kit.fault(6, "fn f() u8 { return 1; } output " + Kit.times("(", 40) + "@f()" + Kit.times(")", 40) + ";");
