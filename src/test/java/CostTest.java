@@ -17,22 +17,10 @@ public final class CostTest {
         Kit.finish();
     }
 
-    /** Statements that cost so much: a loop of n empty rounds costs 1 + n. */
-    private static String spending(int cost) {
-        StringBuilder text = new StringBuilder();
-        int left = cost;
-        while (left > 0) {
-            int rounds = Math.min(256, left - 1);
-            text.append("for zz in 0 .. ").append(rounds).append(" { } ");
-            left -= 1 + rounds;
-        }
-        return text.toString();
-    }
-
     /** The statements cost just so much. */
     private static void costs(int cost, String statements) {
-        Kit.compiled(FNS + NAMES + statements + spending(3000 - cost));
-        String text = FNS + NAMES + statements + spending(3001 - cost);
+        Kit.compiled(FNS + NAMES + statements + Kit.spending(3000 - cost));
+        String text = FNS + NAMES + statements + Kit.spending(3001 - cost);
         SecretHouse house = new SecretHouse();
         Kit.feed(house, text);
         Kit.due("kind with 3001 of " + statements, house.compile(), 6);
@@ -40,7 +28,7 @@ public final class CostTest {
 
     /** The mark is where the last unit of the statements' cost is counted. */
     private static void pays(int cost, String statements) {
-        Kit.fault(6, FNS + NAMES + spending(3001 - cost) + statements);
+        Kit.fault(6, FNS + NAMES + Kit.spending(3001 - cost) + statements);
     }
 
     private static void costsOfStatements() {

@@ -14,7 +14,8 @@ final class Kit {
         if (got != want) {
             wrong++;
             if (wrong <= 40) {
-                System.out.println(what + " answered " + got + ", due is " + want);
+                String told = what.length() > 400 ? what.substring(0, 400) + " .." : what;
+                System.out.println(told + " answered " + got + ", due is " + want);
             }
         }
     }
@@ -77,6 +78,26 @@ final class Kit {
         due("run behind the fault of " + marked, house.run(), false);
     }
 
+    /** What compile() and place() answer for the text. */
+    static void answers(String text, int kind, int place) {
+        SecretHouse house = new SecretHouse();
+        feed(house, text);
+        due("kind of " + text, house.compile(), kind);
+        due("place of " + text, house.place(), place);
+    }
+
+    /** Statements that cost so much: a loop of n empty rounds costs 1 + n. */
+    static String spending(int cost) {
+        StringBuilder text = new StringBuilder();
+        int left = cost;
+        while (left > 0) {
+            int rounds = Math.min(256, left - 1);
+            text.append("for zz in 0 .. ").append(rounds).append(" { } ");
+            left -= 1 + rounds;
+        }
+        return text.toString();
+    }
+
     static void circuitFault(String marked) {
         int place = marked.indexOf('@');
         String text = marked.substring(0, place) + marked.substring(place + 1);
@@ -103,6 +124,15 @@ final class Kit {
 
     static void tells(String text, long... wants) {
         tells(text, compiled(text), wants);
+    }
+
+    /** What the text tells when these numbers are given: alice's ELEMENTS, then bob's. */
+    static void tellsWith(String text, SecretHouse house, long[] given, long... wants) {
+        int alices = house.count(0);
+        for (int k = 0; k < given.length; k++) {
+            give(house, k < alices ? 0 : 1, k < alices ? k : k - alices, given[k]);
+        }
+        tells(text + " with " + java.util.Arrays.toString(given), house, wants);
     }
 
     static boolean valueThrows(SecretHouse house, int k) {
