@@ -20,7 +20,9 @@ public final class EdgeArithmeticTest {
         casts();
         truths();
         bothSidesAreDone();
+        oneBehindAnother();
         rowsOfAllSizes();
+        elementsNextToOthers();
         indexesOfAllTypes();
         Kit.finish();
     }
@@ -57,6 +59,9 @@ public final class EdgeArithmeticTest {
             + "output a & b; output a | b; output a ^ b; output a == b; output a != b; output a < b; output a <= b; "
             + "output a > b; output a >= b;";
         SecretHouse house = Kit.compiled(text);
+        for (int k = 0; k < 13; k++) {
+            Kit.due("bits of output " + k + " of " + type, house.bits(2, k), k < 7 ? bits : 1);
+        }
         for (long a : edges(bits)) {
             for (long b : edges(bits)) {
                 BigInteger x = meaning(base, bits, a);
@@ -228,6 +233,23 @@ public final class EdgeArithmeticTest {
         Kit.fault(6, Kit.spending(2998) + "output true || false @|| true;");
     }
 
+    /** What is done to the second one of a sign leaves the first one as it is. */
+    private static void oneBehindAnother() {
+        String text = "fn f(a u4, b u4) u4 { return a * 2 + b; } alice a u4; bob b u4; output a - ~b; output a - -b; "
+            + "output a - (b << 1); output a - (b >> u2(1)); output a - u4(b < a); output a < 9 && !(b < 9); "
+            + "output f(a, b) - f(b, a) * f(1, 2); output a / 3 / 2; output a % 7 % (b / 2); output a / b * b + a % b; "
+            + "output [a, b][1] - [b, a][u1(1)];";
+        SecretHouse house = Kit.compiled(text);
+        for (int a = 0; a < 16; a++) {
+            for (int b = 0; b < 16; b++) {
+                long rest = b / 2 == 0 ? a % 7 : a % 7 % (b / 2);
+                Kit.tellsWith(text, house, new long[] {a, b}, a - ~b & 15, a + b & 15, a - 2 * b & 15, a - b / 2 & 15,
+                    a - truth(b < a) & 15, truth(a < 9 && b >= 9), 2 * a + b - (2 * b + a) * 4 & 15, a / 3 / 2, rest, a,
+                    b - a & 15);
+            }
+        }
+    }
+
     private static void rowsOfAllSizes() {
         for (int n = 1; n <= 34; n++) {
             StringBuilder row = new StringBuilder();
@@ -252,6 +274,22 @@ public final class EdgeArithmeticTest {
         Kit.fault(4, "output @[true, u1(1)];");
         Kit.fault(4, "output @[u2(1), i2(1)];");
         Kit.fault(4, "output @[u2(1), u3(1)];");
+    }
+
+    /** Where there is no element nothing is there, whatever stands beside the row. */
+    private static void elementsNextToOthers() {
+        String rows = "let p = [u8(251), 252]; let r = [u8(1), 2, 3]; let q = [u8(253), 254]; ";
+        for (int k = -3; k <= 5; k++) {
+            long there = k >= 0 && k < 3 ? k + 1 : 0;
+            Kit.tells(rows + "output r[" + k + "]; output r[i4(" + k + ")];", there, there);
+            long[] wants = {251, 252, 1, 2, 3, 253, 254, 9};
+            if (there > 0) {
+                wants[k + 2] = 9;
+            }
+            Kit.tells(rows + "let e = u8(9); r[" + k + "] = e; output p; output r; output q; output e;", wants);
+            Kit.tells(rows + "let e = u8(9); r[i4(" + k + ")] = e; output p; output r; output q; output e;", wants);
+            Kit.tells(rows + "let s = r; let e = u8(9); r[" + k + "] = e; output s; output p;", 1, 2, 3, 251, 252);
+        }
     }
 
     /** By a u or i of any bits: where there is none all bits are 0, and nothing is assigned. */

@@ -152,15 +152,18 @@ public final class EdgeGrammarTest {
             for (int two = 0; two < LEVELS.length; two++) {
                 for (String x : LEVELS[one]) {
                     for (String y : LEVELS[two]) {
-                        boolean left = one >= two;
-                        String plain = "alice a u3; bob b u3; bob c u3; output a " + x + " b " + y + " c;";
-                        String grouped = left ? plain.replace("output a " + x + " b", "output (a " + x + " b)")
-                            : plain.replace("b " + y + " c;", "(b " + y + " c);");
-                        sameAnswers(plain, grouped, left);
+                        grouped("u3", x, y, one >= two);
+                        grouped("bool", x, y, one >= two);
                     }
                 }
             }
         }
+    }
+
+    private static void grouped(String type, String x, String y, boolean left) {
+        String names = "alice a #; bob b #; bob c #; ".replace("#", type);
+        String with = left ? "(a " + x + " b) " + y + " c;" : "a " + x + " (b " + y + " c);";
+        sameAnswers(names + "output a " + x + " b " + y + " c;", names + "output " + with, left);
     }
 
     private static void sameAnswers(String plain, String grouped, boolean left) {

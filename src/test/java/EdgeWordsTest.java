@@ -136,6 +136,10 @@ public final class EdgeWordsTest {
             for (String name : near) {
                 Kit.tells("let " + name + " = 5; output " + name + ";", 5);
             }
+            for (int i = 0; i < word.length(); i++) {
+                String name = word.substring(0, i) + "x" + word.substring(i + 1);
+                Kit.tells("let " + name + " = 5; output " + name + ";", 5);
+            }
         }
     }
 
