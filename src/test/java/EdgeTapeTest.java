@@ -305,9 +305,9 @@ public final class EdgeTapeTest {
         SecretHouse house = new SecretHouse();
         int[] kinds = {3, 0, 6, 1, 0, 5, 2, 4, 0};
         for (int kind : kinds) {
-            Kit.feed(house, FAULTS[kind]);
             int before = house.place();
-            Kit.due("feed and end do not change place", before, house.place());
+            Kit.feed(house, FAULTS[kind]);
+            Kit.due("feed and end do not change place", house.place(), before);
             Kit.due("kind", house.compile(), kind);
             Kit.due("place of kind " + kind, house.place(), PLACES[kind]);
             house.feed(1, 2, 3, 4, 5);
