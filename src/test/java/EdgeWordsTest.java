@@ -150,7 +150,8 @@ public final class EdgeWordsTest {
             typeOrName("u0" + n, false, 0);
             typeOrName("i0" + n, false, 0);
         }
-        String[] names = {"u", "i", "U8", "I8", "u8_", "u8a", "ua", "i8u8", "u640", "u1000", "b8", "Bool", "bool1"};
+        String[] names = {"u", "i", "U8", "I8", "u8_", "u8a", "ua", "i8u8", "u640", "u1000", "b8", "Bool", "bool1",
+            "u264", "i264", "u65544", "i65544", "u4294967304", "i4294967304", "u99999999999", "i99999999999"};
         for (String name : names) {
             typeOrName(name, false, 0);
         }
