@@ -9,6 +9,9 @@ public final class EdgeTurnsTest {
         asManyWordsAsBytes();
         asManyStepsAsBytes();
         asManyFnsAsBytes();
+        for (int amount = 1; amount <= 8; amount++) {
+            asManyParametersAsBytes(amount);
+        }
         asManyNamesAsBytes();
         asManySignsThatWait();
         asManyStatementsAsCost();
@@ -85,6 +88,32 @@ public final class EdgeTurnsTest {
         Kit.fault(3, text + "output @" + free(n) + "();");
         Kit.fault(3, text + "fn @" + free(n - 1) + "()u1{return 1;}");
         Kit.fault(3, text + "fn @a()u1{return 1;}");
+    }
+
+    /** Each FN has Ps of a TYPE of its own, and returns the last of them. */
+    private static void asManyParametersAsBytes(int amount) {
+        StringBuilder text = new StringBuilder();
+        int n = 0;
+        for (; text.length() < 3800; n++) {
+            String type = "u" + (n % 9 + 1);
+            text.append("fn ").append(free(n)).append('(');
+            for (int k = 0; k < amount; k++) {
+                text.append(k == 0 ? "" : ",").append(letter(k)).append(' ').append(type);
+            }
+            text.append(')').append(type).append("{return ").append(letter(amount - 1)).append(";}");
+        }
+        Kit.due("FNs with " + amount + " Ps", n > 3800 / (26 + 5 * amount), true);
+        for (int k = n - 9; k < n; k++) {
+            int bits = k % 9 + 1;
+            long most = (1 << bits) - 1;
+            String call = free(k) + "(" + Kit.times("0,", amount - 1);
+            Kit.tells(text + "output " + call + most + ");", most);
+            Kit.fault(5, text + "output " + call + "@" + (most + 1) + ");");
+            Kit.fault(4, text + "output " + call + "@true);");
+            Kit.fault(4, text + "output @" + call + "1,1);");
+        }
+        String twice = amount == 8 ? "a u1,b u1,@b u1" : "a u1,@a u1";
+        Kit.fault(3, text + "fn zz(" + twice + ")u1{return a;}");
     }
 
     private static void asManyNamesAsBytes() {
